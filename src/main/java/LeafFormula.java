@@ -101,7 +101,7 @@ public final class LeafFormula {
         latestFault = 0;
         int refusal = reader.readsRow() ? draftRow(found) : WRONG_TEXT;
         tape.cutTo(0);
-        return refusal == 0 ? answer(keepCopy(book, found)) : refuse(refusal);
+        return refusal == 0 ? keepCopy(book, found) : refuse(refusal);
     }
 
     public int find(int book) {
@@ -268,7 +268,7 @@ public final class LeafFormula {
             return refuse(NO_ROOM);
         }
         collator.listTogether(first, second, row);
-        return answer(keepCopy(first.bookNumber, first.source));
+        return keepCopy(first.bookNumber, first.source);
     }
 
     public int status() {
@@ -331,15 +331,14 @@ public final class LeafFormula {
 
     private int closeBook(int refusal) {
         tape.cutTo(0);
-        return refusal == 0 ? answer(keepBook()) : refuse(refusal);
-    }
-
-    private int keepBook() {
+        if (refusal != 0) {
+            return refuse(refusal);
+        }
         if (bookCount >= books.length) {
-            return BAD;
+            return refuse(NO_ROOM);
         }
         books[bookCount] = new Book(draft, scribe.formulaText(draft));
-        return bookCount++;
+        return answer(bookCount++);
     }
 
     /** The refusal of the ROW that was read, 0 if the row is a COPY to keep. */
@@ -353,13 +352,13 @@ public final class LeafFormula {
 
     private int keepCopy(int number, Book book) {
         if (copyCount >= copies.length || book == null) {
-            return BAD;
+            return refuse(NO_ROOM);
         }
         Copy made = new Copy(number, book, row);
         collator.collate(made);
         made.noteText = scribe.noteText(made);
         copies[copyCount] = made;
-        return copyCount++;
+        return answer(copyCount++);
     }
 
     /** A row of numbers that tests each index, so that its users need not. */

@@ -5,6 +5,7 @@ public final class CopyTest {
         wrongRows(c);
         faults(c);
         room(c);
+        longTexts(c);
         finding(c);
         states(c);
         rests(c);
@@ -81,6 +82,23 @@ public final class CopyTest {
         c.due("promise 10: 16 COPIES", x.count(1), 16);
         Checks.book(x, "a8");
         c.refused("promise 26: 1 ahead of 9", x, x.together(0, 16), 1);
+    }
+
+    private static void longTexts(Checks c) {
+        LeafFormula x = sample();
+        c.taken("promise 6: 60 ENTRIES of 120 PIECES", x, Checks.copy(x, 0, "a1".repeat(60)), 0);
+        c.due("promise 21: how many", x.state(0, 1), 60);
+        c.due("promise 21: STRAY ones", x.state(0, 4), 59);
+        c.refused("promise 6: a last one without its i", x, Checks.copy(x, 0, "a1".repeat(59) + "a "), 2);
+        c.due("promise 8: it lacks at the TAPE's length", x.place(), 120);
+        LeafFormula y = new LeafFormula();
+        Checks.book(y, "pi2(-pi1,pi1+2) chi12(-chi12,chi12+1)");
+        c.taken("promise 7: behind a CUT first one", y, Checks.find(y, 0, "pi1+2"), 1);
+        c.taken("promise 7: behind a CUT last one", y, Checks.find(y, 0, "chi12+1"), 14);
+        c.taken("promise 7: the CUT first one", y, Checks.find(y, 0, "pi1"), -1);
+        c.taken("promise 7: the CUT last one", y, Checks.find(y, 0, "chi12"), -1);
+        Checks.book(y, "pi2");
+        c.taken("promise 7: the first one", y, Checks.find(y, 1, "pi1"), 0);
     }
 
     private static void finding(Checks c) {

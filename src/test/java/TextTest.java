@@ -136,6 +136,8 @@ public final class TextTest {
             right(c, "a-b12," + n, n == 12 ? "a-b12" : "a12 b" + n);
         }
         right(c, "a8" + " ".repeat(118), "a8");
+        right(c, " ".repeat(118) + "a8", "a8");
+        right(c, "pi12(pi1+1,-pi1,=pi12) chi12(=chi1,-chi12,chi12+4)", "pi12(-pi1,pi1+1,=pi12) chi12(=chi1,-chi12,chi12+4)");
         right(c, "a8 (=a8, a1+1, -a1)", "a8(-a1,a1+1,=a8)");
     }
 
@@ -149,6 +151,9 @@ public final class TextTest {
         fault(c, "chi-chi8", 1);
         fault(c, "b-a8", 1);
         fault(c, "b-b8", 1);
+        // 120 PIECES of one byte each
+        fault(c, "b8".repeat(60), 2);
+        wrong(c, "b8".repeat(59) + "b-", 120);
         fault(c, "aa-z8", 1);
         fault(c, "b8 a8", 2);
         fault(c, "b8 b8", 2);
