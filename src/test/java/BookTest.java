@@ -11,14 +11,14 @@ public final class BookTest {
         c.finish();
     }
 
-    private static LeafFormula sample() {
-        LeafFormula x = new LeafFormula();
+    private static Subject sample() {
+        Subject x = new Subject();
         Checks.book(x, "pi1 a-b4,2(-a2,a2+2,=a3,b2+1) chi2(-chi1,-chi2)");
         return x;
     }
 
     private static void gatherings(Checks c) {
-        LeafFormula x = sample();
+        Subject x = sample();
         c.taken("promise 11: gatherings", x, x.gatherings(0), 4);
         c.refused("promise 11: gatherings(1)", x, x.gatherings(1), 1);
         c.refused("promise 11: gatherings(-1)", x, x.gatherings(-1), 1);
@@ -38,7 +38,7 @@ public final class BookTest {
     }
 
     private static void leaves(Checks c) {
-        LeafFormula x = sample();
+        Subject x = sample();
         c.taken("promise 13: leaves", x, x.leaves(0), 9);
         c.refused("promise 13: leaves(1)", x, x.leaves(1), 1);
         c.refused("promise 13: leaves(-1)", x, x.leaves(-1), 1);
@@ -64,7 +64,7 @@ public final class BookTest {
     }
 
     private static void conjugates(Checks c) {
-        LeafFormula x = new LeafFormula();
+        Subject x = new Subject();
         Checks.book(x, "a8 b1 c12(-c1,=c2,c3+1)");
         for (int i = 1; i <= 8; i++) {
             c.due("promise 14: CONJUGATE of a" + i, x.leaf(0, i - 1, 4), 8 - i);
@@ -79,7 +79,7 @@ public final class BookTest {
     }
 
     private static void written(Checks c) {
-        LeafFormula x = sample();
+        Subject x = sample();
         String due = "pi1 a4(-a2,a2+2,=a3) b2(b2+1) chi2(-chi1,-chi2)";
         for (int k = 0; k < due.length(); k++) {
             c.taken("promise 15: letter " + k, x, x.letter(0, k), due.charAt(k));
@@ -95,7 +95,7 @@ public final class BookTest {
     }
 
     private static void names(Checks c) {
-        LeafFormula x = new LeafFormula();
+        Subject x = new Subject();
         Checks.book(x, "pi2 b1(-b1,b1+2) bb2 bbb12(=bbb10,bbb10+4) chi2");
         String[] due = {"pi1", "pi2", "b1+1", "b1+2", "bb1", "bb2", "bbb1"};
         for (int place = 0; place < due.length; place++) {
@@ -114,7 +114,7 @@ public final class BookTest {
     }
 
     private static void same(Checks c) {
-        LeafFormula x = new LeafFormula();
+        Subject x = new Subject();
         Checks.book(x, "a8 b8(-b1)");
         Checks.book(x, "a-b 08 ( - b01 )");
         Checks.book(x, "a-b8");

@@ -10,7 +10,7 @@ public final class ChangeTest {
     }
 
     private static void taken(Checks c) {
-        LeafFormula x = new LeafFormula();
+        Subject x = new Subject();
         Checks.book(x, "pi2 a-d8,4(-b2) e6 chi2");
         c.taken("change", x, Checks.change(x, 0, " c8 + 2 , = a1 "), 1);
         c.due("the old BOOK is as it was", Checks.written(x, 0), "pi2 a8 b4(-b2) c8 d4 e6 chi2");
@@ -28,7 +28,7 @@ public final class ChangeTest {
         String[] texts = {"", "  ", "a8", "-a1 -a2", "-a1,", "-a1)", "(-a1)", "-a", "a1+", "-a1+1", "-a1000", "= =a1"};
         int[] places = {0, 2, 2, 4, 4, 3, 0, 2, 3, 3, 2, 2};
         for (int i = 0; i < texts.length; i++) {
-            LeafFormula x = new LeafFormula();
+            Subject x = new Subject();
             Checks.book(x, "a8");
             c.refused("change by '" + texts[i] + "'", x, Checks.change(x, 0, texts[i]), 2);
             c.due("place() behind '" + texts[i] + "'", x.place(), places[i]);
@@ -36,7 +36,7 @@ public final class ChangeTest {
             c.due("BOOKS behind '" + texts[i] + "'", x.count(0), 1);
             c.due("TAPE behind '" + texts[i] + "'", x.count(2), 0);
         }
-        LeafFormula x = new LeafFormula();
+        Subject x = new Subject();
         c.refused("no BOOK", x, Checks.change(x, 0, "?"), 1);
         c.due("no text was read", x.place(), LeafFormula.BAD);
     }
@@ -46,7 +46,7 @@ public final class ChangeTest {
             "a3+1", "-a2,=a2", "-a1,a2+9,-d1", "-a1,a2+9", "=a2,=a2,-e1"};
         int[] faults = {4, 4, 0, 4, 4, 4, 4, 5, 5, 6, 6, 6, 6, 6, 4, 5, 4};
         for (int i = 0; i < texts.length; i++) {
-            LeafFormula x = new LeafFormula();
+            Subject x = new Subject();
             Checks.book(x, "a8(-a1,a3+4) b2 c4");
             int got = Checks.change(x, 0, texts[i]);
             c.due("change by '" + texts[i] + "'", got, faults[i] == 0 ? 1 : LeafFormula.BAD);
@@ -57,7 +57,7 @@ public final class ChangeTest {
     }
 
     private static void room(Checks c) {
-        LeafFormula x = new LeafFormula();
+        Subject x = new Subject();
         Checks.book(x, "a-kk12");
         c.taken("396 and 4", x, Checks.change(x, 0, "a1+4,-b1"), 1);
         c.due("leaves but the CUT one", x.leaves(1), 399);

@@ -25,13 +25,13 @@ final class Checks {
     }
 
     /** A call that must be refused with this number. */
-    void refused(String what, LeafFormula x, int got, int number) {
+    void refused(String what, Subject x, int got, int number) {
         due(what, got, LeafFormula.BAD);
         due(what + ", then status()", x.status(), number);
     }
 
     /** A call that must be taken. */
-    void taken(String what, LeafFormula x, int got, int want) {
+    void taken(String what, Subject x, int got, int want) {
         due(what, got, want);
         due(what + ", then status()", x.status(), 0);
     }
@@ -44,7 +44,7 @@ final class Checks {
     }
 
     /** Puts a text of up to 120 bytes on the TAPE, as all that it has. */
-    static LeafFormula tape(LeafFormula x, String text) {
+    static Subject tape(Subject x, String text) {
         x.end(0);
         for (int at = 0; at < text.length(); at += 20) {
             int[] words = new int[5];
@@ -58,23 +58,23 @@ final class Checks {
         return x;
     }
 
-    static int book(LeafFormula x, String text) {
+    static int book(Subject x, String text) {
         return tape(x, text).book();
     }
 
-    static int change(LeafFormula x, int book, String text) {
+    static int change(Subject x, int book, String text) {
         return tape(x, text).change(book);
     }
 
-    static int copy(LeafFormula x, int book, String text) {
+    static int copy(Subject x, int book, String text) {
         return tape(x, text).copy(book);
     }
 
-    static int find(LeafFormula x, int book, String text) {
+    static int find(Subject x, int book, String text) {
         return tape(x, text).find(book);
     }
 
-    static String written(LeafFormula x, int book) {
+    static String written(Subject x, int book) {
         StringBuilder text = new StringBuilder();
         for (int k = 0; k < 10000; k++) {
             int b = x.letter(book, k);
@@ -86,7 +86,7 @@ final class Checks {
         return text.toString();
     }
 
-    static String note(LeafFormula x, int copy) {
+    static String note(Subject x, int copy) {
         StringBuilder text = new StringBuilder();
         for (int k = 0; k < 10000; k++) {
             int b = x.note(copy, k);
@@ -98,7 +98,7 @@ final class Checks {
         return text.toString();
     }
 
-    static String name(LeafFormula x, int book, int place) {
+    static String name(Subject x, int book, int place) {
         StringBuilder text = new StringBuilder();
         for (int k = 0; k < 100; k++) {
             int b = x.name(book, place, k);
@@ -111,7 +111,7 @@ final class Checks {
     }
 
     /** All that told() tells of one kind, with blanks between. */
-    static String told(LeafFormula x, int copy, int what) {
+    static String told(Subject x, int copy, int what) {
         StringBuilder text = new StringBuilder();
         for (int k = 0; k < x.state(copy, what); k++) {
             text.append(k > 0 ? " " : "").append(x.told(copy, what, k));
@@ -119,7 +119,7 @@ final class Checks {
         return text.toString();
     }
 
-    static String entries(LeafFormula x, int copy) {
+    static String entries(Subject x, int copy) {
         StringBuilder text = new StringBuilder();
         for (int i = 0; i < x.state(copy, 1); i++) {
             text.append(i > 0 ? " " : "").append(x.entry(copy, i));

@@ -16,8 +16,8 @@ public final class CopyTest {
         c.finish();
     }
 
-    private static LeafFormula sample() {
-        LeafFormula x = new LeafFormula();
+    private static Subject sample() {
+        Subject x = new Subject();
         Checks.book(x, "a-b4(-a2,a2+2,b4+1)");
         return x;
     }
@@ -27,7 +27,7 @@ public final class CopyTest {
             "a1 b1 j1", "a1000", "a1=", "a1+1 - + 1"};
         int[] places = {0, 1, 1, 3, 3, 5, 4, 5, 2, 3, 0, 4, 3, 6, 1, 2, 7};
         for (int i = 0; i < texts.length; i++) {
-            LeafFormula x = sample();
+            Subject x = sample();
             c.refused("promise 6: copy of '" + texts[i] + "'", x, Checks.copy(x, 0, texts[i]), 2);
             c.due("promise 8: place() behind '" + texts[i] + "'", x.place(), places[i]);
             c.due("promise 9: fault() behind '" + texts[i] + "'", x.fault(), 0);
@@ -40,7 +40,7 @@ public final class CopyTest {
         String[] texts = {"a2", "a5", "a0", "c1", "pi1", "a2+0", "a2+3", "a1+1", "a1-a1", "a3-a1", "a2+2-a2+1", "a1-a2",
             "a2-a3", "a1 a1-b4 b5", "b1-a4", "b4+1-b4"};
         for (String text : texts) {
-            LeafFormula x = sample();
+            Subject x = sample();
             c.refused("promise 6: copy of '" + text + "'", x, Checks.copy(x, 0, text), 4);
             c.due("promise 9: fault() behind '" + text + "'", x.fault(), 7);
             c.due("promise 8: place() behind '" + text + "'", x.place(), LeafFormula.BAD);
@@ -50,7 +50,7 @@ public final class CopyTest {
         String[] right = {"a1", "a2+1-a2+2", "a1-b4+1", "a2+2-a3", " a 01 - a 2 + 1 b4+1a1", "b4-b4+1"};
         String[] entries = {"0", "1 2", "0 1 2 3 4 5 6 7 8 9", "2 3", "0 1 9 0", "8 9"};
         for (int i = 0; i < right.length; i++) {
-            LeafFormula x = sample();
+            Subject x = sample();
             c.taken("promise 6: copy of '" + right[i] + "'", x, Checks.copy(x, 0, right[i]), 0);
             c.due("promise 22: ENTRIES of '" + right[i] + "'", Checks.entries(x, 0), entries[i]);
             c.due("promise 9: fault() behind '" + right[i] + "'", x.fault(), 0);
@@ -59,7 +59,7 @@ public final class CopyTest {
     }
 
     private static void room(Checks c) {
-        LeafFormula x = new LeafFormula();
+        Subject x = new Subject();
         Checks.book(x, "a-kk12 ll4");
         c.taken("promise 6: 400 ENTRIES", x, Checks.copy(x, 0, "a1-ll4"), 0);
         c.taken("promise 6: 400 in two ITEMS", x, Checks.copy(x, 0, "b1-ll4 a1-a12"), 1);
@@ -85,13 +85,13 @@ public final class CopyTest {
     }
 
     private static void longTexts(Checks c) {
-        LeafFormula x = sample();
+        Subject x = sample();
         c.taken("promise 6: 60 ENTRIES of 120 PIECES", x, Checks.copy(x, 0, "a1".repeat(60)), 0);
         c.due("promise 21: how many", x.state(0, 1), 60);
         c.due("promise 21: STRAY ones", x.state(0, 4), 59);
         c.refused("promise 6: a last one without its i", x, Checks.copy(x, 0, "a1".repeat(59) + "a "), 2);
         c.due("promise 8: it lacks at the TAPE's length", x.place(), 120);
-        LeafFormula y = new LeafFormula();
+        Subject y = new Subject();
         Checks.book(y, "pi2(-pi1,pi1+2) chi12(-chi12,chi12+1)");
         c.taken("promise 7: behind a CUT first one", y, Checks.find(y, 0, "pi1+2"), 1);
         c.taken("promise 7: behind a CUT last one", y, Checks.find(y, 0, "chi12+1"), 14);
@@ -102,7 +102,7 @@ public final class CopyTest {
     }
 
     private static void finding(Checks c) {
-        LeafFormula x = sample();
+        Subject x = sample();
         String[] names = {"a1", "a2", "a2+1", "a2+2", "a3", " b 4 + 01 ", "b4", "b5", "b0", "c1", "chi1", "a1+0", "a2+3",
             "a2+0", "a2+999", "a999"};
         int[] places = {0, -1, 1, 2, 3, 9, 8, -1, -1, -1, -1, -1, -1, -1, -1, -1};
@@ -123,7 +123,7 @@ public final class CopyTest {
     }
 
     private static void states(Checks c) {
-        LeafFormula x = new LeafFormula();
+        Subject x = new Subject();
         Checks.book(x, "a4");
         Checks.book(x, "a8(=a2) b4 c1 d2(-d1)");
         Checks.copy(x, 1, "a1-a3 b1 b1 c1 b1 d2 a6 a7");
@@ -144,7 +144,7 @@ public final class CopyTest {
             "a3 a4 a1 a2", "a1 a4 a2 a3", "a2 a1 a4 a3", "a1 a2 a1 a2 a3", "a5 a6 a1 a2 a7 a8 a3 a4", "a1 a3 a3 a2 a2"};
         String[] strays = {"", "1 2", "1", "1", "2", "2", "0 5", "2 3", "1", "1 3", "2 3", "2 3 6 7", "2 3 4"};
         for (int i = 0; i < rows.length; i++) {
-            LeafFormula x = new LeafFormula();
+            Subject x = new Subject();
             Checks.book(x, "a8");
             Checks.copy(x, 0, rows[i]);
             c.due("promise 23: STRAY ENTRIES of '" + rows[i] + "'", Checks.told(x, 0, 4), strays[i]);
@@ -157,7 +157,7 @@ public final class CopyTest {
         String[] due = {"", "lacks b4+1", "lacks a1-b4", "twice a1; moved a1", "lacks a4, b4+1",
             "lacks b1, b3; twice a2+2-a3, b4; moved a2+2, a3, b4, b4, a1", "moved b1", "lacks a2+1-a3"};
         for (int i = 0; i < rows.length; i++) {
-            LeafFormula x = sample();
+            Subject x = sample();
             Checks.copy(x, 0, rows[i]);
             c.due("promise 24: NOTE of '" + rows[i] + "'", Checks.note(x, 0), due[i]);
             for (int k = 0; k < due[i].length(); k++) {
@@ -169,7 +169,7 @@ public final class CopyTest {
     }
 
     private static void refusals(Checks c) {
-        LeafFormula x = sample();
+        Subject x = sample();
         Checks.copy(x, 0, "a1 b1 a1");
         c.refused("promise 21: what 6", x, x.state(0, 6), 3);
         c.refused("promise 21: what -1", x, x.state(0, -1), 3);
@@ -194,7 +194,7 @@ public final class CopyTest {
     }
 
     private static void pairs(Checks c) {
-        LeafFormula x = sample();
+        Subject x = sample();
         Checks.copy(x, 0, "a4 a1 a1 b4-b4+1");
         Checks.copy(x, 0, "b4 b1 a1");
         c.taken("promise 25: apart", x, x.apart(0, 1), 3);
@@ -213,7 +213,7 @@ public final class CopyTest {
     }
 
     private static void pairRefusals(Checks c) {
-        LeafFormula x = sample();
+        Subject x = sample();
         Checks.book(x, "a-b4(-a2,a2+2,b4+1)");
         Checks.copy(x, 0, "a1");
         Checks.copy(x, 1, "a1");

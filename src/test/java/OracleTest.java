@@ -1,12 +1,13 @@
 import java.util.Random;
 
-/** All promises: runs of calls by fixed seeds, each answer as the oracle's, and STATUS, place and fault behind each. */
+/** All promises: runs of calls by fixed seeds, each answer as the oracle's, and now and then STATUS, place and fault behind it. */
 public final class OracleTest {
-    private static final int CALLS = 512;
+    /** The dearest step: a text of 120 bytes, read, and STATUS, place and fault behind each of its calls. */
+    private static final int CALLS_A_STEP = 40;
 
     private final Checks checks;
     private final Random random;
-    private final LeafFormula x = new LeafFormula();
+    private final Subject x = new Subject();
     private final Oracle oracle = new Oracle();
     private final String run;
     private int calls;
@@ -18,7 +19,7 @@ public final class OracleTest {
     }
 
     public static void main(String[] args) {
-        int runs = args.length > 0 ? Integer.parseInt(args[0]) : 600;
+        int runs = args.length > 0 ? Integer.parseInt(args[0]) : 1500;
         Checks checks = new Checks("OracleTest");
         for (int seed = 0; seed < runs; seed++) {
             new OracleTest(checks, seed).go();
@@ -27,7 +28,7 @@ public final class OracleTest {
     }
 
     private void go() {
-        while (calls < CALLS) {
+        while (x.callsLeft() >= CALLS_A_STEP) {
             int kind = random.nextInt(12);
             if (kind < 3) {
                 text();
@@ -42,7 +43,25 @@ public final class OracleTest {
     private void due(String what, int got, int want) {
         calls++;
         checks.due(run + calls + " " + what, got, want);
+        if (rarely(3)) {
+            dueStatus(what);
+        }
+        if (rarely(8)) {
+            duePlaceAndFault(what);
+        }
+    }
+
+    private void dueOfText(String what, int got, int want) {
+        due(what, got, want);
+        dueStatus(what);
+        duePlaceAndFault(what);
+    }
+
+    private void dueStatus(String what) {
         checks.due(run + calls + " status() behind " + what, x.status(), oracle.status);
+    }
+
+    private void duePlaceAndFault(String what) {
         checks.due(run + calls + " place() behind " + what, x.place(), oracle.place);
         checks.due(run + calls + " fault() behind " + what, x.fault(), oracle.fault);
     }
@@ -78,13 +97,13 @@ public final class OracleTest {
         }
         put(text);
         if (kind < 2) {
-            due("book of '" + text + "'", x.book(), oracle.book());
+            dueOfText("book of '" + text + "'", x.book(), oracle.book());
         } else if (kind < 4) {
-            due("change(" + book + ") by '" + text + "'", x.change(book), oracle.change(book));
+            dueOfText("change(" + book + ") by '" + text + "'", x.change(book), oracle.change(book));
         } else if (kind < 7) {
-            due("copy(" + book + ") of '" + text + "'", x.copy(book), oracle.copy(book));
+            dueOfText("copy(" + book + ") of '" + text + "'", x.copy(book), oracle.copy(book));
         } else {
-            due("find(" + book + ") '" + text + "'", x.find(book), oracle.find(book));
+            dueOfText("find(" + book + ") '" + text + "'", x.find(book), oracle.find(book));
         }
     }
 
@@ -120,7 +139,7 @@ public final class OracleTest {
             int n = odd(121);
             due("end(" + n + ")", x.end(n), oracle.end(n));
         } else if (rarely(2)) {
-            due("book", x.book(), oracle.book());
+            dueOfText("book", x.book(), oracle.book());
         }
     }
 

@@ -23,7 +23,7 @@ public final class SheetTest {
     private static void everySize(Checks c) {
         int[] formats = {2, 4, 8};
         for (String[] due : DUE) {
-            LeafFormula x = new LeafFormula();
+            Subject x = new Subject();
             Checks.book(x, "a" + due[0]);
             for (int f = 0; f < 3; f++) {
                 String[] leaves = due[f + 1].split(" ");
@@ -44,7 +44,7 @@ public final class SheetTest {
     }
 
     private static void longBook(Checks c) {
-        LeafFormula x = new LeafFormula();
+        Subject x = new Subject();
         Checks.book(x, "a8(-a1,-a8,a2+1,=a3) b1 c12 d2(-d1,-d2) chi6");
         c.taken("promise 18: by 2", x, x.sheets(0, 2), 4 + 1 + 6 + 1 + 3);
         c.taken("promise 18: by 4", x, x.sheets(0, 4), 2 + 1 + 3 + 1 + 2);
@@ -65,7 +65,7 @@ public final class SheetTest {
     }
 
     private static void refusals(Checks c) {
-        LeafFormula x = new LeafFormula();
+        Subject x = new Subject();
         Checks.book(x, "a8");
         for (int format : new int[] {0, 1, 3, 5, 6, 7, 9, 16, -2, -4, Integer.MIN_VALUE}) {
             c.refused("promise 18: sheets by " + format, x, x.sheets(0, format), 3);

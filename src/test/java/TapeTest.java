@@ -10,7 +10,7 @@ public final class TapeTest {
     }
 
     private static void newObject(Checks c) {
-        LeafFormula x = new LeafFormula();
+        Subject x = new Subject();
         c.due("BAD", LeafFormula.BAD, -9);
         c.due("promise 27: status() ahead of any call", x.status(), 0);
         c.due("promise 8: place() ahead of a text", x.place(), LeafFormula.BAD);
@@ -24,7 +24,7 @@ public final class TapeTest {
     }
 
     private static void feeding(Checks c) {
-        LeafFormula x = new LeafFormula();
+        Subject x = new Subject();
         // a1 to a4 are bytes of one int, the highest first; a b with its high bit set begins no PIECE
         int word = 'a' << 24 | '1' << 16 | ' ' << 8 | 'b';
         c.taken("promise 2: feed", x, x.feed(word, '2' << 24 | 0x202020, 0x20202020, 0x20202020, 0x20202020), 20);
@@ -44,7 +44,7 @@ public final class TapeTest {
     }
 
     private static void ending(Checks c) {
-        LeafFormula x = new LeafFormula();
+        Subject x = new Subject();
         c.taken("promise 3: end(0) of nothing", x, x.end(0), 0);
         c.refused("promise 3: end(1) of nothing", x, x.end(1), 3);
         Checks.tape(x, "a8 b8");
@@ -60,7 +60,7 @@ public final class TapeTest {
     }
 
     private static void counting(Checks c) {
-        LeafFormula x = new LeafFormula();
+        Subject x = new Subject();
         Checks.book(x, "a8");
         Checks.book(x, "b8");
         Checks.copy(x, 0, "a1");

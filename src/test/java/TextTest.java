@@ -13,7 +13,7 @@ public final class TextTest {
     }
 
     private static void wrong(Checks c, String text, int at) {
-        LeafFormula x = new LeafFormula();
+        Subject x = new Subject();
         String what = "book of '" + text + "'";
         c.refused("promise 4: " + what, x, Checks.book(x, text), 2);
         c.due("promise 8: place() behind " + what, x.place(), at);
@@ -23,7 +23,7 @@ public final class TextTest {
     }
 
     private static void fault(Checks c, String text, int fault) {
-        LeafFormula x = new LeafFormula();
+        Subject x = new Subject();
         String what = "book of '" + text + "'";
         c.refused("promise 4: " + what, x, Checks.book(x, text), 4);
         c.due("promise 9: fault() behind " + what, x.fault(), fault);
@@ -33,7 +33,7 @@ public final class TextTest {
     }
 
     private static void right(Checks c, String text, String written) {
-        LeafFormula x = new LeafFormula();
+        Subject x = new Subject();
         String what = "book of '" + text + "'";
         c.taken("promise 4: " + what, x, Checks.book(x, text), 0);
         c.due("promise 15: " + what, Checks.written(x, 0), written);
@@ -104,16 +104,18 @@ public final class TextTest {
             wrong(c, "a8(-" + word + "1)", 4);
         }
         String letters = "abcdefghiklmnopqrstvxyz";
-        LeafFormula x = new LeafFormula();
-        Checks.book(x, "pi1 a-zzz1,2 chi4");
-        c.due("promise 11: GATHERINGS of all SIGNS", x.gatherings(0), 71);
         for (int i = 0; i < 69; i++) {
+            Subject x = new Subject();
+            Checks.book(x, "pi1 a-zzz1,2 chi4");
             String sign = letters.substring(i % 23, i % 23 + 1).repeat(i / 23 + 1);
             c.due("promise 12: number of " + sign, x.gathering(0, i + 1, 0), i + 1);
             int place = Checks.find(x, 0, sign + "1");
             c.due("promise 7: GATHERING of " + sign, x.leaf(0, place, 0), i + 1);
             c.due("promise 16: NAME of " + sign, Checks.name(x, 0, place), sign + "1");
         }
+        Subject x = new Subject();
+        Checks.book(x, "pi1 a-zzz1,2 chi4");
+        c.due("promise 11: GATHERINGS of all SIGNS", x.gatherings(0), 71);
         c.due("number of pi", x.gathering(0, 0, 0), 0);
         c.due("number of chi", x.gathering(0, 70, 0), 70);
     }
@@ -207,7 +209,7 @@ public final class TextTest {
     }
 
     private static void room(Checks c) {
-        LeafFormula x = new LeafFormula();
+        Subject x = new Subject();
         c.taken("promise 4: 400 leaves", x, Checks.book(x, "a-kk12 ll4"), 0);
         c.due("leaves of it", x.leaves(0), 400);
         c.refused("promise 4: 401 leaves", x, Checks.book(x, "a-kk12 ll4 mm1"), 9);
@@ -236,7 +238,7 @@ public final class TextTest {
 
     /** place() and fault() are of the latest text that was read, by whichever call. */
     private static void latestText(Checks c) {
-        LeafFormula x = new LeafFormula();
+        Subject x = new Subject();
         Checks.book(x, "a8");
         Checks.book(x, "a8 b");
         c.due("promise 8: of a WRONG text", x.place(), 4);
