@@ -424,7 +424,7 @@ public final class LeafFormula {
             starts.clear();
             values.clear();
             int width = 1;
-            for (int at = 0; at < length; at += width) {
+            for (int at = 0; at < length; at += Math.max(width, 1)) {
                 width = widthAt(at);
                 if (byteAt(at) != ' ') {
                     addPiece(at, width);

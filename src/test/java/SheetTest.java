@@ -3,6 +3,8 @@ public final class SheetTest {
     public static void main(String[] args) {
         Checks c = new Checks("SheetTest");
         everySize(c);
+        changedLeaves(c);
+        cutOnes(c);
         longBook(c);
         refusals(c);
         c.finish();
@@ -41,6 +43,50 @@ public final class SheetTest {
                 c.taken("promise 18: SHEETS of a" + due[0], x, x.sheets(0, formats[f]), sheets);
             }
         }
+    }
+
+    /** Terms 3: whatever became of one LEAF, the others lie where they did, and it lies there only if it is PLAIN. */
+    private static void changedLeaves(Checks c) {
+        for (int row = 0; row < DUE.length; row++) {
+            int n = Integer.parseInt(DUE[row][0]);
+            for (int i = 1; i <= n; i++) {
+                for (String change : new String[] {"-a" + i, "=a" + i, "a" + i + "+2"}) {
+                    Subject x = new Subject();
+                    String book = "a" + n + "(" + change + ") b1";
+                    Checks.book(x, book);
+                    boolean cut = change.startsWith("-");
+                    for (int place = 0; place < x.leaves(0) - 1; place++) {
+                        int number = x.leaf(0, place, 1);
+                        boolean lies = number != i || !change.startsWith("=") && x.leaf(0, place, 2) == 0;
+                        for (int f = 1; f <= 3; f++) {
+                            String on = DUE[row][f].split(" ")[number - 1];
+                            String what = "of place " + place + " in '" + book + "' by " + (1 << f);
+                            c.due("promise 19: SHEET " + what, x.sheet(0, place, 1 << f, 0), lies ? on.charAt(0) - '0' : -1);
+                            c.due("promise 19: number " + what, x.sheet(0, place, 1 << f, 1), lies ? on.charAt(1) - '0' : -1);
+                            c.due("promise 20: FORME " + what, x.forme(0, place, 0, 1 << f), lies ? (on.charAt(1) + 1) % 2 : -1);
+                        }
+                    }
+                    c.due("promise 13: LEAVES of '" + book + "'", x.leaves(0), n + 1 + (cut ? -1 : change.endsWith("+2") ? 2 : 0));
+                }
+            }
+        }
+    }
+
+    /** Terms 3: a GATHERING of which all is CUT has its SHEETS, ahead of those of the next. */
+    private static void cutOnes(Checks c) {
+        Subject x = new Subject();
+        Checks.book(x, "a8(-a1,-a2,-a3,-a4,-a5,-a6,-a7,-a8) b1(-b1) c4");
+        c.taken("promise 13: LEAVES", x, x.leaves(0), 4);
+        int[] sheets = {4 + 1 + 2, 2 + 1 + 1, 1 + 1 + 1};
+        int[] ahead = {4 + 1, 2 + 1, 1 + 1};
+        for (int f = 0; f < 3; f++) {
+            c.taken("promise 18: SHEETS by " + (2 << f), x, x.sheets(0, 2 << f), sheets[f]);
+            c.taken("promise 19: SHEET of c1 by " + (2 << f), x, x.sheet(0, 0, 2 << f, 0), ahead[f]);
+        }
+        Checks.book(x, "a1(-a1)");
+        c.taken("promise 18: of a BOOK without LEAVES", x, x.sheets(1, 2), 1);
+        c.refused("promise 19: of a BOOK without LEAVES", x, x.sheet(1, 0, 2, 0), 1);
+        c.refused("promise 20: of a BOOK without LEAVES", x, x.forme(1, 0, 0, 2), 1);
     }
 
     private static void longBook(Checks c) {
