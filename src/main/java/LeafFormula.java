@@ -264,9 +264,6 @@ public final class LeafFormula {
         if (first.bookNumber != second.bookNumber) {
             return refuse(FAULTY);
         }
-        if (copyCount >= MOST_COPIES) {
-            return refuse(NO_ROOM);
-        }
         collator.listTogether(first, second, row);
         return keepCopy(first.bookNumber, first.source);
     }
@@ -310,7 +307,7 @@ public final class LeafFormula {
         return format == 2 || format == 4 || format == 8;
     }
 
-    /** The refusal of the FORMULA that was read, 0 if the draft is a BOOK to keep. */
+    /** The refusal of the FORMULA that was read, 0 if the draft is a BOOK to keep, should there be room for one. */
     private int draftFormula() {
         latestFault = Faults.ofFormula(reader, draft);
         return refusalOfDraft();
@@ -326,7 +323,7 @@ public final class LeafFormula {
         if (latestFault != 0) {
             return FAULTY;
         }
-        return bookCount >= MOST_BOOKS || draft.leavesInAll() > MOST_LEAVES ? NO_ROOM : 0;
+        return draft.leavesInAll() > MOST_LEAVES ? NO_ROOM : 0;
     }
 
     private int closeBook(int refusal) {
@@ -341,13 +338,13 @@ public final class LeafFormula {
         return answer(bookCount++);
     }
 
-    /** The refusal of the ROW that was read, 0 if the row is a COPY to keep. */
+    /** The refusal of the ROW that was read, 0 if the row is a COPY to keep, should there be room for one. */
     private int draftRow(Book book) {
         latestFault = Faults.ofRow(reader.leaves, book);
         if (latestFault != 0) {
             return FAULTY;
         }
-        return copyCount >= MOST_COPIES || !book.listsEntries(reader.leaves, row) ? NO_ROOM : 0;
+        return book.listsEntries(reader.leaves, row) ? 0 : NO_ROOM;
     }
 
     private int keepCopy(int number, Book book) {

@@ -198,6 +198,27 @@ public final class EdgeBooksTest {
         due(c, "a4(-b1) b4", 4);
         due(c, "a4(-a1,-b1) b4", 4);
         due(c, "a-c4(-c1,-b1,-a1)", 0);
+        // chi may stand ahead of what is lesser in the ORDER, so SIGNS of GROUPS ahead are not all lesser
+        String[][] pairs = {{"pi", "a"}, {"a", "b"}, {"a-c", "d-f"}, {"a", "chi"}, {"chi", "pi"}, {"chi", "a"},
+            {"chi", "zzz"}, {"chi", "a-c"}, {"b-d", "chi"}};
+        for (String[] pair : pairs) {
+            leafOfOneGroup(c, pair, true);
+            leafOfOneGroup(c, pair, false);
+        }
+    }
+
+    /** A LEAF of one of two GROUPS in the CHANGES of each: it is right in those of its own GROUP alone. */
+    private static void leafOfOneGroup(Checks c, String[] pair, boolean ofFirst) {
+        String leaf = pair[ofFirst ? 0 : 1].split("-")[0] + "1";
+        String first = pair[0] + "4";
+        String second = pair[1] + "4";
+        for (String change : new String[] {"-" + leaf, "=" + leaf, leaf + "+1"}) {
+            due(c, first + "(" + change + ") " + second, ofFirst ? 0 : 4);
+            due(c, first + " " + second + "(" + change + ")", ofFirst ? 4 : 0);
+            due(c, first + "(" + change + ") " + second + "(" + change + ")", 4);
+        }
+        due(c, first + " " + second + "(" + leaf + "+5)", ofFirst ? 4 : 5);
+        due(c, first + " " + second + "(-" + leaf + ",-" + leaf + ")", ofFirst ? 4 : 6);
     }
 
     /** FAULT 5: each k is from 1 to 4. */
